@@ -1,0 +1,76 @@
+/** What the tests share: comparing answers with those that are due, and making papers and texts. */
+final class Due {
+    static final int NONE = -1000000, BAD = -1000001, STATE = -1000002, FULL = -1000003;
+    static final int NULL = -1000011, PLACE = -1000012, KIND = -1000013, SIZE = -1000014, STORE = -1000015;
+    static final int M = 65521;
+
+    private static int asked = 0;
+    private static int wrong = 0;
+
+    private Due() { }
+
+    static void due(int promise, String call, long got, long want) {
+        asked++;
+        if (got != want) {
+            wrong++;
+            System.out.println("promise " + promise + ": " + call + " answered " + got + ", due is " + want);
+        }
+    }
+
+    static void end() {
+        System.out.println(asked + " answers, " + wrong + " not as due");
+        if (wrong != 0) {
+            System.exit(1);
+        }
+    }
+
+    /** Puts items into a new sheet of ints. */
+    static void fill(PaperPocket x, int sheet, int... items) {
+        x.sheet(sheet, 2, items.length);
+        for (int i = 0; i < items.length; i++) {
+            x.set(sheet, i, items[i]);
+        }
+    }
+
+    /** Tells a paper by way of sheet 7: office, bearer, sort, first, last, four fields. */
+    static int tell(PaperPocket x, int... items) {
+        fill(x, 7, items);
+        return x.paper(7, 0);
+    }
+
+    /** Feeds a text byte by byte and has it read. */
+    static int read(PaperPocket x, String text) {
+        feed(x, text);
+        return x.doors();
+    }
+
+    static void feed(PaperPocket x, String text) {
+        for (int i = 0; i < text.length(); i++) {
+            x.feed(text.charAt(i), 1);
+        }
+    }
+
+    static int join(int a, int b) {
+        return (int) (((long) a * a + 3L * b + 5) % M);
+    }
+
+    static int leaf(int paper, int field, int value) {
+        return (31 * value + 7 * paper + field) % M;
+    }
+
+    static int root(int paper, int... f) {
+        return join(join(leaf(paper, 0, f[0]), leaf(paper, 1, f[1])), join(leaf(paper, 2, f[2]), leaf(paper, 3, f[3])));
+    }
+
+    static int seal(int root, int key) {
+        return (int) (((long) root * key + 1) % M);
+    }
+
+    static int steps(int from, int many) {
+        long x = from;
+        for (int i = 0; i < many; i++) {
+            x = (x * x + 3) % M;
+        }
+        return (int) x;
+    }
+}

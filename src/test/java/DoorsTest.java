@@ -221,7 +221,7 @@ public final class DoorsTest {
         x.revoke(0, 3);
         Due.due(29, "taken back at door 0", x.least(0, 0, 9, 0), 2);
         Due.due(29, "not known at door 2", x.least(0, 2, 9, 0), 3);
-        // Paper 0 would fit both and the field twice; one of 1 and one of office 0 is heavier all the same.
+        // An ask told twice weighs twice; papers 0 and 2 both fit all three.
         Due.read(x, "door 2 over 0 15 over 1 5 over 0 15;");
         Due.due(29, "one paper of weight 4", x.least(0, 2, 9, 1), 4);
         Due.due(29, "its number", x.least(0, 2, 9, 0), 1);

@@ -51,7 +51,10 @@ public final class AskedTest {
         Due.due(38, "count(2)", x.count(2), 5);
         x.day(0);
         Due.due(34, "back again", x.kind(2), 2);
-        Due.due(34, "kind(5)", x.kind(5), Due.BAD);
+        x.day(999);
+        Due.tell(x, 0, 0, 4, 0, 0, 0, 0, 0, 0);
+        Due.due(34, "not taken back, on the last day", x.kind(5), 4);
+        Due.due(34, "kind(6)", x.kind(6), Due.BAD);
         Due.due(34, "kind(-1)", x.kind(-1), Due.BAD);
         Due.due(34, "kind(12)", x.kind(12), Due.BAD);
     }

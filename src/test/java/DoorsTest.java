@@ -41,7 +41,8 @@ public final class DoorsTest {
         Due.due(23, "revoke(0, -1)", x.revoke(0, -1), Due.BAD);
         Due.due(23, "revoke(2, 0)", x.revoke(2, 0), Due.BAD);
         Due.due(23, "revoke(-1, 0)", x.revoke(-1, 0), Due.BAD);
-        Due.due(23, "revoke(0, 0)", x.revoke(0, 0), 1);
+        Due.due(23, "revoke(0, 998)", x.revoke(0, 998), 1);
+        Due.due(23, "again", x.revoke(0, 998), Due.STATE);
     }
 
     private static void holdsByDays() {
@@ -94,6 +95,15 @@ public final class DoorsTest {
         Due.due(24, "it is", x.holds(2, 1, 50), 5);
         x.close(2, 1, 10);
         Due.due(24, "the end comes first", x.holds(2, 1, 50), 4);
+        int lasting = Due.tell(x, 3, 0, 0, 999, 999, 0, 0, 0, 0);
+        x.book(2, 999);
+        Due.due(24, "nothing is told against it", x.holds(lasting, 2, 999), 0);
+        x.close(3, 0, 999);
+        Due.due(24, "burnt on the last day", x.holds(lasting, 2, 999), 5);
+        x.close(3, 1, 999);
+        Due.due(24, "the end on the last day", x.holds(lasting, 2, 999), 4);
+        x.revoke(lasting, 999);
+        Due.due(24, "taken back on the last day", x.holds(lasting, 2, 999), 3);
     }
 
     private static void feed() {
@@ -161,6 +171,7 @@ public final class DoorsTest {
             {"door 0 from ;", 12, 1}, {"door 0 from 4;", 12, 2}, {"door 0 field 4", 13, 2}, {"door 0 field field", 13, 1},
             {"door 0 over 4 x", 12, 2}, {"door 0 over 0", 13, 1}, {"door 0 over 0;", 13, 1}, {"door 0 over 0 999", 17, 1},
             {"door 0 over 0 1000;", 14, 1}, {"door 0 from 1 2;", 14, 1}, {"door 0 field 1 # door 9;", 15, 1},
+            {"doora 0;", 0, 1}, {"doorz 0;", 0, 1}, {"xoor 0;", 0, 1}, {"door 0 iver 0 0;", 7, 1}, {"light 0;", 0, 1},
             {"Door 0;", 0, 1}, {"doo 0;", 0, 1}, {"doors 0;", 0, 1}, {"door 0 fromm 1;", 7, 1}, {"door 0\t;", 6, 1},
             {"door 0;;", 7, 1}, {"door 0;right", 12, 1}, {"right x", 6, 1}, {"right 4;", 6, 2}, {"right 0", 7, 1},
             {"right 0 4;", 8, 2}, {"right 0 0 1 2 3 4 #", 16, 2}, {"right 0 x;", 8, 1}, {"right 0 0123;", 8, 1},
@@ -279,6 +290,9 @@ public final class DoorsTest {
         Due.due(31, "by several papers of one", x.together(10), 8);
         x.revoke(3, 0);
         Due.due(31, "taken back or not", x.together(2), 41);
+        Due.tell(x, 0, 2, 0, 0, 0, 9, 2, 3, 4);
+        Due.due(31, "another value in field 0", x.together(2), 41);
+        Due.due(31, "no field shown", x.together(1), 45);
         Due.due(31, "together(0)", x.together(0), Due.BAD);
         Due.due(31, "together(16)", x.together(16), Due.BAD);
         Due.due(31, "together(17)", x.together(17), Due.BAD);

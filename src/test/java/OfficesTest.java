@@ -56,7 +56,8 @@ public final class OfficesTest {
         for (int[] w : wrong) {
             Due.due(8, "close of wrong numbers", x.close(w[0], w[1], w[2]), Due.BAD);
         }
-        Due.due(8, "what was refused is not told", x.close(1, 0, 1), 1);
+        Due.due(8, "what was refused is not told", x.close(1, 0, 998), 1);
+        Due.due(8, "again", x.close(1, 0, 998), Due.STATE);
     }
 
     private static void paper() {
@@ -211,6 +212,10 @@ public final class OfficesTest {
         Due.due(12, "an item below 0", x.check(0, 0, 0, 1, 2), Due.BAD);
         Due.due(39, "status() stays", x.status(), 2);
         Due.due(12, "the greatest sums", x.check(0, 0, 0, 2, 2), 0);
+        x.sheet(1, 2, 4);
+        for (int set = 0; set < 16; set++) {
+            Due.due(12, "the least numbers", x.check(0, set, 1, 0, x.show(0, set, -1)), 0);
+        }
         Due.due(39, "status()", x.status(), 0);
         Due.fill(x, 0, 65520, 65521);
         Due.due(12, "an item above 65520", x.check(0, 0, 0, 0, 2), Due.BAD);
@@ -229,7 +234,7 @@ public final class OfficesTest {
         PaperPocket x = new PaperPocket();
         java.util.Random random = new java.util.Random(13);
         for (int p = 0; p < 12; p++) {
-            int[] f = {random.nextInt(1000), random.nextInt(1000), random.nextInt(1000), random.nextInt(1000)};
+            int[] f = p == 0 ? new int[] {0, 999, 999, 0} : random.ints(4, 0, 1000).toArray();
             Due.tell(x, p % 4, 0, 0, 5, 9, f[0], f[1], f[2], f[3]);
             int root = Due.root(p, f);
             for (int i = 0; i < 4; i++) {
@@ -292,5 +297,6 @@ public final class OfficesTest {
         Due.due(15, "isOver of 65521", x.isOver(1, 0, 0, 65521), Due.BAD);
         Due.due(15, "isOver of -1", x.isOver(1, 0, 0, -1), Due.BAD);
         Due.due(15, "isOver of 65520", x.isOver(1, 0, 0, 65520), 0);
+        Due.due(15, "isOver of 0", x.isOver(1, 0, 0, 0), 0);
     }
 }

@@ -65,6 +65,9 @@ public final class SheetsTest {
         x.copy(7, 2, 6, 0, 1);
         x.sheet(6, 0, 9);
         Due.due(2, "a new sheet has zeros, a paper of them", x.paper(6, 0), 0);
+        for (int what : new int[] {0, 1, 2, 3, 8, 9, 10, 11}) {
+            Due.due(2, "told(0, " + what + ")", x.told(0, what), 0);
+        }
     }
 
     private static void set() {

@@ -42,7 +42,7 @@ public final class WhoTest {
         PaperPocket x = new PaperPocket();
         x.secret(4, 22);
         for (int r = 0; r < 23; r += 2) {
-            for (int c = 0; c < 23; c += 3) {
+            for (int c = 0; c < 23; c += 2) {
                 int t = x.answer(4, r, c, 0);
                 int s = x.answer(4, r, c, 1);
                 Due.due(17, "t", t, power(4, r, 47));

@@ -217,6 +217,9 @@ public final class OfficesTest {
             Due.due(12, "the least numbers", x.check(0, set, 1, 0, x.show(0, set, -1)), 0);
         }
         Due.due(39, "status()", x.status(), 0);
+        // 3 times 43679, and 5, is twice M: the root of these halves is 0, a root like any other.
+        Due.fill(x, 0, 0, 43679);
+        Due.due(12, "a root of 0", x.check(0, 0, 0, 0, 2), 0);
         Due.fill(x, 0, 65520, 65521);
         Due.due(12, "an item above 65520", x.check(0, 0, 0, 0, 2), Due.BAD);
         Due.fill(x, 0, 999, 65520, 65520);

@@ -695,6 +695,7 @@ public final class PaperPocket {
     /** A paper as it was told, and the sums that come of its number and fields alone. */
     private static final class Paper {
         static final int ITEMS = 9, FIRST_FIELD = 5;
+        private static final int FIRST_DAY_ITEM = 3, LAST_DAY_ITEM = 4;
         private static final int[] LIMITS = {
             OFFICES - 1, BEARERS - 1, LENT_KIND, LAST_DAY, LAST_DAY, MOST_VALUE, MOST_VALUE, MOST_VALUE, MOST_VALUE
         };
@@ -713,19 +714,19 @@ public final class PaperPocket {
             office = items[at];
             bearer = items[at + 1];
             sort = items[at + 2];
-            first = items[at + 3];
-            last = items[at + 4];
+            first = items[at + FIRST_DAY_ITEM];
+            last = items[at + LAST_DAY_ITEM];
             System.arraycopy(items, at + FIRST_FIELD, fields, 0, FIELDS);
         }
 
-        /** The document tells no order of the first and the last day, so none is asked for. */
+        /** A day that lies ahead of the first is not the last, so such an item is not as told. */
         static boolean isTold(int[] items, int at) {
             for (int i = 0; i < ITEMS; i++) {
                 if (!within(items[at + i], 0, LIMITS[i])) {
                     return false;
                 }
             }
-            return true;
+            return items[at + FIRST_DAY_ITEM] <= items[at + LAST_DAY_ITEM];
         }
 
         int leafWith(int field, int value) {

@@ -4,6 +4,7 @@ public final class OfficesTest {
         keys();
         close();
         paper();
+        lastDayIsNotAheadOfTheFirst();
         told();
         sealFollowsTheKeyOfTheFirstDay();
         show();
@@ -95,6 +96,35 @@ public final class OfficesTest {
         Due.due(9, "FULL ahead of NULL", x.paper(1, 0), Due.FULL);
         Due.due(9, "BAD ahead of FULL", x.paper(8, 0), Due.BAD);
         Due.due(38, "count(1)", x.count(1), 12);
+    }
+
+    private static void lastDayIsNotAheadOfTheFirst() {
+        PaperPocket x = new PaperPocket();
+        int[][] wrong = {{1, 0}, {999, 0}, {999, 998}, {30, 29}};
+        for (int[] days : wrong) {
+            Due.due(9, "a last day ahead of the first", Due.tell(x, 0, 0, 0, days[0], days[1], 0, 0, 0, 0), Due.BAD);
+        }
+        Due.due(38, "none was taken", x.count(1), 0);
+        int[][] right = {{0, 0}, {999, 999}, {0, 999}, {998, 999}, {29, 30}};
+        for (int p = 0; p < right.length; p++) {
+            int[] days = right[p];
+            Due.due(9, "days in their order", Due.tell(x, 0, 0, 0, days[0], days[1], 0, 0, 0, 0), p);
+            Due.due(36, "days it has", x.ask(p, 0), days[1] - days[0] + 1);
+            Due.due(24, "it holds on its first day", x.holds(p, 0, days[0]), 0);
+            Due.due(24, "it holds on its last day", x.holds(p, 0, days[1]), 0);
+        }
+        x.paper(6, 0);
+        Due.due(39, "status()", x.status(), 1);
+        x.sheet(7, 0, 9);
+        x.set(7, 3, 1);
+        x.paper(7, 1);
+        Due.due(39, "status()", x.status(), 2);
+        Due.due(9, "in a sheet of bytes", x.paper(7, 0), Due.BAD);
+        Due.due(39, "status() stays behind it", x.status(), 2);
+        for (int p = right.length; p < 12; p++) {
+            Due.tell(x, 0, 0, 0, 5, 5, 0, 0, 0, 0);
+        }
+        Due.due(9, "FULL ahead of an item", Due.tell(x, 0, 0, 0, 6, 5, 0, 0, 0, 0), Due.FULL);
     }
 
     private static void told() {

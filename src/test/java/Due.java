@@ -1,3 +1,8 @@
+import java.lang.reflect.Method;
+import java.lang.reflect.Modifier;
+import java.util.Arrays;
+import java.util.Comparator;
+
 /** What the tests share: comparing answers with those that are due, and making papers and texts. */
 final class Due {
     static final int NONE = -1000000, BAD = -1000001, STATE = -1000002, FULL = -1000003;
@@ -6,14 +11,43 @@ final class Due {
 
     private static int asked = 0;
     private static int wrong = 0;
+    private static String running = "";
 
     private Due() { }
+
+    /** Runs each test of a class, that is each static method without parameters, so that none can be forgotten. */
+    static void runAll(Class<?> tests) {
+        Method[] methods = tests.getDeclaredMethods();
+        Arrays.sort(methods, Comparator.comparing(Method::getName));
+        for (Method test : methods) {
+            boolean own = Modifier.isStatic(test.getModifiers()) && !test.isSynthetic();
+            if (own && test.getParameterCount() == 0 && test.getReturnType() == void.class) {
+                run(test);
+            }
+        }
+        end();
+    }
+
+    private static void run(Method test) {
+        running = test.getName() + ", ";
+        int askedBefore = asked;
+        try {
+            test.invoke(null);
+        } catch (ReflectiveOperationException e) {
+            wrong++;
+            System.out.println(running + "ended by " + e.getCause());
+        }
+        if (asked == askedBefore) {
+            wrong++;
+            System.out.println(running + "asked nothing");
+        }
+    }
 
     static void due(int promise, String call, long got, long want) {
         asked++;
         if (got != want) {
             wrong++;
-            System.out.println("promise " + promise + ": " + call + " answered " + got + ", due is " + want);
+            System.out.println(running + "promise " + promise + ": " + call + " answered " + got + ", due is " + want);
         }
     }
 
@@ -36,6 +70,14 @@ final class Due {
     static int tell(PaperPocket x, int... items) {
         fill(x, 7, items);
         return x.paper(7, 0);
+    }
+
+    /** What an item is (0 to 256 can be looked at), by way of a copy in sheet 6, where it is a friend's part. */
+    static int item(PaperPocket x, int lane, int sheet, int i) {
+        x.sheet(6, lane, 2);
+        x.set(6, 0, 1);
+        x.copy(sheet, i, 6, 1, 1);
+        return x.friends(6, 0, 1, 0);
     }
 
     /** Feeds a text byte by byte and has it read. */

@@ -80,15 +80,21 @@ final class Due {
         return x.friends(6, 0, 1, 0);
     }
 
-    /** Feeds a text byte by byte and has it read. */
+    /** Feeds a text and has it read. */
     static int read(PaperPocket x, String text) {
         feed(x, text);
         return x.doors();
     }
 
+    /** Feeds eight bytes at a time, and behind them what is left. */
     static void feed(PaperPocket x, String text) {
-        for (int i = 0; i < text.length(); i++) {
-            x.feed(text.charAt(i), 1);
+        for (int from = 0; from < text.length(); from += 8) {
+            int n = Math.min(8, text.length() - from);
+            long w = 0;
+            for (int i = 0; i < n; i++) {
+                w = w << 8 | text.charAt(from + i) & 255;
+            }
+            x.feed(w, n);
         }
     }
 

@@ -319,7 +319,7 @@ public final class OfficesEdgesTest {
         Due.due(11, "FIELD 1 of PAPER 11, value 0", x.show(11, 1, 1), 78);
     }
 
-    /** Promise 10: "JOIN of a, b: (a a and 3 b and 5) modulo M." a a goes far beyond M, and beyond what an int holds. */
+    /** Promise 10: "SUMS: JOIN of a, b: (a a and 3 b and 5) modulo M." a a goes far beyond M, and beyond what an int holds. */
     static void joinIsModuloM() {
         PaperPocket x = new PaperPocket();
         boolean beyond = false;

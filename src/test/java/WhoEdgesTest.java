@@ -12,7 +12,7 @@ public final class WhoEdgesTest {
 
     // ---- Promise 16
 
-    /** Promise 1: "BEARERS have SECRETS x (1 to 22; at first the number and 2)" */
+    /** Promise 1: "WHO: BEARERS have SECRETS x (1 to 22; at first the number and 2)" */
     static void secretsAtFirst() {
         PaperPocket x = new PaperPocket();
         for (int bearer = 0; bearer <= 5; bearer++) {

@@ -1,4 +1,7 @@
-/** The edges of THE DAY, KINDS, ASKS and status(), promises 33 to 39: what each sentence of the document names has a test of its own. */
+/**
+ * The edges of THE DAY, KINDS, ASKS and status(), promises 33 to 39: what each sentence of the document names has a
+ * test of its own.
+ */
 public final class AskedEdgesTest {
     private static final int MAX = Integer.MAX_VALUE, MIN = Integer.MIN_VALUE;
     private static final int[] OFFICES = {3, 2, 1, 0, 3};
@@ -38,7 +41,10 @@ public final class AskedEdgesTest {
 
     // ---- Promise 34
 
-    /** Promise 34: "KINDS of PAPERS: 0 PAPER; 1 STAMP, a PAPER: stamp; 2 SHORT, a STAMP: short; 3 GRADE, a PAPER: grade; 4 LENT, a PAPER: lent" */
+    /**
+     * Promise 34: "KINDS of PAPERS: 0 PAPER; 1 STAMP, a PAPER: stamp; 2 SHORT, a STAMP: short; 3 GRADE, a PAPER: grade;
+     * 4 LENT, a PAPER: lent"
+     */
     static void kindsOfAllSorts() {
         PaperPocket x = fiveSorts();
         for (int p = 0; p < 5; p++) {
@@ -58,7 +64,10 @@ public final class AskedEdgesTest {
         }
     }
 
-    /** Promise 34: "TAKEN BACK from THE DAY (0 at first) or ahead." From day 0 on it is GONE at first, from day 999 on the last day alone. */
+    /**
+     * Promise 34: "TAKEN BACK from THE DAY (0 at first) or ahead." From day 0 on it is GONE at first, from day 999 on
+     * the last day alone.
+     */
     static void goneOnTheFirstAndOnTheLastDay() {
         PaperPocket x = fiveSorts();
         x.revoke(0, 0);
@@ -83,7 +92,10 @@ public final class AskedEdgesTest {
         Due.due(34, "over, not TAKEN BACK", x.kind(1), 1);
     }
 
-    /** Promise 34: "It is told as the first that fits of GONE, SHORT, STAMP, GRADE, LENT, PAPER: by this it is asked." GONE fits ahead of each SORT. */
+    /**
+     * Promise 34: "It is told as the first that fits of GONE, SHORT, STAMP, GRADE, LENT, PAPER: by this it is asked."
+     * GONE fits ahead of each SORT.
+     */
     static void goneComesAheadOfAllSorts() {
         PaperPocket x = fiveSorts();
         for (int p = 0; p < 5; p++) {
@@ -124,7 +136,10 @@ public final class AskedEdgesTest {
         Due.due(35, "a GONE one", x.as(1, 0), 2);
     }
 
-    /** Promise 35: "KIND: it is no such one (each is a PAPER, SHORT ones are STAMPS, too)." STAMPS are not SHORT, and no other is a STAMP. */
+    /**
+     * Promise 35: "KIND: it is no such one (each is a PAPER, SHORT ones are STAMPS, too)." STAMPS are not SHORT, and no
+     * other is a STAMP.
+     */
     static void shortOnesAreStamps() {
         PaperPocket x = fiveSorts();
         Due.due(35, "a SHORT one as a STAMP", x.as(2, 1), 1);
@@ -147,7 +162,10 @@ public final class AskedEdgesTest {
         }
     }
 
-    /** Promise 35: "KIND: it is no such one (each is a PAPER, SHORT ones are STAMPS, too)." A GONE one is GONE and a PAPER, from that day on and not ahead. */
+    /**
+     * Promise 35: "KIND: it is no such one (each is a PAPER, SHORT ones are STAMPS, too)." A GONE one is GONE and a
+     * PAPER, from that day on and not ahead.
+     */
     static void aGoneOneIsGoneFromItsDayOn() {
         PaperPocket x = fiveSorts();
         x.revoke(2, 50);
@@ -281,7 +299,10 @@ public final class AskedEdgesTest {
         askDue(x, 11, 1, 1011, 23, 20);
     }
 
-    /** Promise 36: "Of an ask the BODY told for the KIND begins, else that of the nearest KIND that it is, too, else the one that is lent" A STAMP's MARK, a LENT one's SIZE and a GONE one's MARK are lent. */
+    /**
+     * Promise 36: "Of an ask the BODY told for the KIND begins, else that of the nearest KIND that it is, too, else the
+     * one that is lent" A STAMP's MARK, a LENT one's SIZE and a GONE one's MARK are lent.
+     */
     static void theLentBodyBeginsWhereNoneIsTold() {
         PaperPocket x = fiveSorts();
         askDue(x, 1, 1, 1, 20);
@@ -299,7 +320,10 @@ public final class AskedEdgesTest {
         askDue(x, 2, 1, 2 + 2 * (10 + 102), 21, 20, 12, 11, 10);
     }
 
-    /** Promise 36: "by this it is asked." On the day from which it is GONE on it is asked as a GONE one, the day ahead it is not. */
+    /**
+     * Promise 36: "by this it is asked." On the day from which it is GONE on it is asked as a GONE one, the day ahead
+     * it is not.
+     */
     static void aPaperIsAskedAsItIsToldOnTheDay() {
         PaperPocket x = fiveSorts();
         x.revoke(4, 50);
@@ -358,7 +382,10 @@ public final class AskedEdgesTest {
         Due.due(37, "trace(4)", x.trace(4), 10);
     }
 
-    /** Promise 37: "ASKS of PAPERS, by BODIES, each of which leaves its number in THE TRACE as it begins (the first 16)" No ask of any KIND comes near 16. */
+    /**
+     * Promise 37: "ASKS of PAPERS, by BODIES, each of which leaves its number in THE TRACE as it begins (the first 16)"
+     * No ask of any KIND comes near 16.
+     */
     static void noAskComesNear16() {
         PaperPocket x = fiveSorts();
         for (int p = 0; p < 5; p++) {
@@ -373,7 +400,10 @@ public final class AskedEdgesTest {
 
     // ---- Promise 38
 
-    /** Promise 38: "How many: 0 SHEETS, 1 PAPERS, 2 GONE ones on THE DAY, 3 KEYS told, 4 SEEN ones, 5 bytes on the tape." All as full as they get. */
+    /**
+     * Promise 38: "How many: 0 SHEETS, 1 PAPERS, 2 GONE ones on THE DAY, 3 KEYS told, 4 SEEN ones, 5 bytes on the
+     * tape." All as full as they get.
+     */
     static void theMostOfAll() {
         PaperPocket x = new PaperPocket();
         for (int sheet = 0; sheet <= 7; sheet++) {
@@ -441,16 +471,24 @@ public final class AskedEdgesTest {
         Due.due(39, "it had none", x.status(), 0);
     }
 
-    /** Promise 39: "Of the latest call with a SHEET, or as(), that was not BAD, STATE, FULL: the number of its FINDING" Each such call has its FINDING told, and each good one 0. */
+    /**
+     * Promise 39: "Of the latest call with a SHEET, or as(), that was not BAD, STATE, FULL: the number of its FINDING"
+     * Each such call has its FINDING told, and each good one 0.
+     */
     static void eachCallWithASheetAndAsHaveAStatus() {
         PaperPocket x = fiveSorts();
         x.sheet(0, 2, 9);
         int[][] found = {
-            {x.sheet(1, 0, -1), x.status()}, {x.set(0, 0, 0), x.status()}, {x.set(0, 9, 0), x.status()}, {x.sheet(2, 0, 1), x.status()},
-            {x.copy(0, 0, 2, 0, 1), x.status()}, {x.copy(0, 0, 0, 1, 1), x.status()}, {x.drop(3), x.status()}, {x.drop(2), x.status()},
-            {x.paper(3, 0), x.status()}, {x.paper(0, 0), x.status()}, {x.check(0, 0, 0, 8, 2), x.status()}, {x.check(0, 0, 0, 0, 2), x.status()},
-            {x.friends(3, 0, 1, 0), x.status()}, {x.set(0, 0, 1), x.status()}, {x.queue(0, 8, 1, 0), x.status()}, {x.friends(0, 0, 1, 0), x.status()},
-            {x.as(0, 1), x.status()}, {x.set(0, 1, 1), x.status()}, {x.drop(3), x.status()}, {x.queue(0, 0, 1, 0), x.status()},
+            {x.sheet(1, 0, -1), x.status()}, {x.set(0, 0, 0), x.status()},
+            {x.set(0, 9, 0), x.status()}, {x.sheet(2, 0, 1), x.status()},
+            {x.copy(0, 0, 2, 0, 1), x.status()}, {x.copy(0, 0, 0, 1, 1), x.status()},
+            {x.drop(3), x.status()}, {x.drop(2), x.status()},
+            {x.paper(3, 0), x.status()}, {x.paper(0, 0), x.status()},
+            {x.check(0, 0, 0, 8, 2), x.status()}, {x.check(0, 0, 0, 0, 2), x.status()},
+            {x.friends(3, 0, 1, 0), x.status()}, {x.set(0, 0, 1), x.status()},
+            {x.queue(0, 8, 1, 0), x.status()}, {x.friends(0, 0, 1, 0), x.status()},
+            {x.as(0, 1), x.status()}, {x.set(0, 1, 1), x.status()},
+            {x.drop(3), x.status()}, {x.queue(0, 0, 1, 0), x.status()},
             {x.drop(3), x.status()}, {x.as(0, 0), x.status()},
         };
         int[] due = {4, 0, 2, 0, 5, 0, 1, 0, 1, 0, 2, 0, 1, 0, 2, 0, 3, 0, 1, 0, 1, 0};
@@ -466,9 +504,9 @@ public final class AskedEdgesTest {
         Due.fill(x, 0, 9, 9, 9, 9, 9, 9, 9, 9, 9);
         x.as(0, 5);
         int[] answers = {
-            x.sheet(8, 0, -1), x.sheet(0, 3, -1), x.sheet(0, 0, 61), x.set(8, 0, 0), x.copy(8, 0, 0, 0, 1), x.copy(0, 0, 8, 0, 1), x.drop(8),
-            x.paper(8, 0), x.paper(0, 0), x.check(9, 0, 0, 0, 2), x.check(0, 15, 0, 0, 2), x.check(0, 16, 1, 0, 2), x.friends(0, 0, 7, 0),
-            x.friends(0, 0, 1, 0), x.queue(0, 0, 8, 0), x.queue(0, 0, 1, 1), x.as(9, 0), x.as(0, 6),
+            x.sheet(8, 0, -1), x.sheet(0, 3, -1), x.sheet(0, 0, 61), x.set(8, 0, 0), x.copy(8, 0, 0, 0, 1), x.copy(0, 0, 8, 0, 1),
+            x.drop(8), x.paper(8, 0), x.paper(0, 0), x.check(9, 0, 0, 0, 2), x.check(0, 15, 0, 0, 2), x.check(0, 16, 1, 0, 2),
+            x.friends(0, 0, 7, 0), x.friends(0, 0, 1, 0), x.queue(0, 0, 8, 0), x.queue(0, 0, 1, 1), x.as(9, 0), x.as(0, 6),
         };
         for (int i = 0; i < answers.length; i++) {
             Due.due(39, "call " + i, answers[i], Due.BAD);
@@ -493,10 +531,11 @@ public final class AskedEdgesTest {
         PaperPocket x = fiveSorts();
         x.sheet(0, 0, -1);
         int[] before = {
-            x.key(0, 1, 1), x.key(4, 1, 1), x.keyOn(0, 0), x.close(0, 0, 5), x.close(0, 0, 5), x.told(0, 0), x.show(0, 0, 0), x.show(0, 0, 9),
-            x.lies(0, 0), x.over(0, 0, 0), x.over(0, 1, 999), x.isOver(0, 0, 0, 0), x.secret(0, 5), x.answer(0, 0, 0, 0), x.taken(0, 0, 0, 0),
-            x.odds(0, 0, 0), x.part(0, 1, 1), x.book(0, 5), x.revoke(0, 5), x.revoke(0, 5), x.holds(0, 0, 5), x.feed(120, 1), x.doors(), x.fault(),
-            x.door(0, 0), x.least(0, 0, 0, 0), x.seen(0, 0, 0), x.together(1), x.together(0), x.day(5), x.kind(0), x.ask(0, 0), x.trace(0), x.count(0),
+            x.key(0, 1, 1), x.key(4, 1, 1), x.keyOn(0, 0), x.close(0, 0, 5), x.close(0, 0, 5), x.told(0, 0), x.show(0, 0, 0),
+            x.show(0, 0, 9), x.lies(0, 0), x.over(0, 0, 0), x.over(0, 1, 999), x.isOver(0, 0, 0, 0), x.secret(0, 5),
+            x.answer(0, 0, 0, 0), x.taken(0, 0, 0, 0), x.odds(0, 0, 0), x.part(0, 1, 1), x.book(0, 5), x.revoke(0, 5),
+            x.revoke(0, 5), x.holds(0, 0, 5), x.feed(120, 1), x.doors(), x.fault(), x.door(0, 0), x.least(0, 0, 0, 0),
+            x.seen(0, 0, 0), x.together(1), x.together(0), x.day(5), x.kind(0), x.ask(0, 0), x.trace(0), x.count(0),
         };
         Due.due(39, "that many calls", before.length, 34);
         Due.due(39, "status()", x.status(), 4);

@@ -67,7 +67,10 @@ public final class DoorsEdgesTest {
         }
     }
 
-    /** Promise 23: "A PAPER is TAKEN BACK from a day on: 1. BAD; STATE: it was." Told for the last day, it was, too; the first day stays. */
+    /**
+     * Promise 23: "A PAPER is TAKEN BACK from a day on: 1. BAD; STATE: it was." Told for the last day, it was, too; the
+     * first day stays.
+     */
     static void theDayOfTheFirstTimeStays() {
         PaperPocket x = onePaper();
         Due.due(23, "revoke(0, 999)", x.revoke(0, 999), 1);
@@ -107,7 +110,8 @@ public final class DoorsEdgesTest {
 
     private static void holdsDue(PaperPocket x, int paper, int door, int... daysAndDue) {
         for (int i = 0; i < daysAndDue.length; i += 2) {
-            Due.due(24, "holds(" + paper + ", " + door + ", " + daysAndDue[i] + ")", x.holds(paper, door, daysAndDue[i]), daysAndDue[i + 1]);
+            int day = daysAndDue[i];
+            Due.due(24, "holds(" + paper + ", " + door + ", " + day + ")", x.holds(paper, door, day), daysAndDue[i + 1]);
         }
     }
 
@@ -192,7 +196,10 @@ public final class DoorsEdgesTest {
         holdsDue(x, 0, 1, 10, 0);
     }
 
-    /** Promise 24: "5 its OFFICE is BURNT from a day that is BOOK DAY or ahead, and its first day is that day or later." One sealed ahead of the burning holds on. */
+    /**
+     * Promise 24: "5 its OFFICE is BURNT from a day that is BOOK DAY or ahead, and its first day is that day or later."
+     * One sealed ahead of the burning holds on.
+     */
     static void burningCountsForPapersOfThatDayAndLater() {
         PaperPocket x = new PaperPocket();
         for (int first = 29; first <= 31; first++) {
@@ -217,7 +224,10 @@ public final class DoorsEdgesTest {
         holdsDue(x, 0, 0, 9, 1, 10, 3, 91, 2);
     }
 
-    /** Promise 24: "DOORS 0 .. 3: each has a BOOK DAY (0 at first)." What is told from day 0 on is known at first, what from day 1 on is not. */
+    /**
+     * Promise 24: "DOORS 0 .. 3: each has a BOOK DAY (0 at first)." What is told from day 0 on is known at first, what
+     * from day 1 on is not.
+     */
     static void theFirstBookDayKnowsDay0() {
         PaperPocket x = onePaper();
         Due.tell(x, 2, 0, 0, 10, 90, 0, 0, 0, 0);
@@ -269,7 +279,10 @@ public final class DoorsEdgesTest {
 
     // ---- Promise 28
 
-    /** Promise 28: "A DOOR asks TOO MUCH, if it asks ('field' or 'over') a FIELD that it may not." By 'field', the first FIELD and the last. */
+    /**
+     * Promise 28: "A DOOR asks TOO MUCH, if it asks ('field' or 'over') a FIELD that it may not." By 'field', the first
+     * FIELD and the last.
+     */
     static void aFieldThatItMayNotAskIsTooMuch() {
         for (int field = 0; field <= 3; field++) {
             PaperPocket x = new PaperPocket();
@@ -280,7 +293,10 @@ public final class DoorsEdgesTest {
         }
     }
 
-    /** Promise 28: "A DOOR asks TOO MUCH, if it asks ('field' or 'over') a FIELD that it may not." By 'over', whatever the bound. */
+    /**
+     * Promise 28: "A DOOR asks TOO MUCH, if it asks ('field' or 'over') a FIELD that it may not." By 'over', whatever
+     * the bound.
+     */
     static void overAFieldThatItMayNotAskIsTooMuch() {
         for (int field = 0; field <= 3; field++) {
             PaperPocket x = new PaperPocket();
@@ -291,7 +307,10 @@ public final class DoorsEdgesTest {
         }
     }
 
-    /** Promise 28: "A DOOR asks TOO MUCH, if it asks ('field' or 'over') a FIELD that it may not." 'from' asks no FIELD, and the last of eight asks is enough. */
+    /**
+     * Promise 28: "A DOOR asks TOO MUCH, if it asks ('field' or 'over') a FIELD that it may not." 'from' asks no FIELD,
+     * and the last of eight asks is enough.
+     */
     static void fromIsNeverTooMuchAndOneAskIsEnough() {
         PaperPocket x = new PaperPocket();
         Due.read(x, "door 0 from 0 from 1 from 2 from 3;right 0;");
@@ -311,7 +330,10 @@ public final class DoorsEdgesTest {
         Due.due(28, "TOO MUCH", x.door(0, 2), 0);
     }
 
-    /** Promise 28: "Of a DOOR: 0 how many asks, 1 which FIELDS it may ask (bits), 2 whether it asks TOO MUCH (1, 0)." None and eight asks, none and all FIELDS. */
+    /**
+     * Promise 28: "Of a DOOR: 0 how many asks, 1 which FIELDS it may ask (bits), 2 whether it asks TOO MUCH (1, 0)."
+     * None and eight asks, none and all FIELDS.
+     */
     static void theFewestAndTheMostOfADoor() {
         PaperPocket x = new PaperPocket();
         for (int door = 0; door <= 3; door++) {
@@ -350,7 +372,10 @@ public final class DoorsEdgesTest {
         Due.due(29, "its weight", x.least(bearer, door, day, 1), weight);
     }
 
-    /** Promise 29: "ENOUGH: a set of PAPERS of one BEARER that HOLD at the DOOR on a day, so that each ask is fitted by one" Another BEARER's PAPERS are not of it. */
+    /**
+     * Promise 29: "ENOUGH: a set of PAPERS of one BEARER that HOLD at the DOOR on a day, so that each ask is fitted by
+     * one" Another BEARER's PAPERS are not of it.
+     */
     static void papersOfAnotherBearerDoNotHelp() {
         PaperPocket x = new PaperPocket();
         Due.tell(x, 0, 5, 0, 0, 9, 0, 0, 0, 0);
@@ -361,7 +386,10 @@ public final class DoorsEdgesTest {
         leastDue(x, 5, 1, 0, Due.NONE, Due.NONE);
     }
 
-    /** Promise 29: "a set of PAPERS of one BEARER that HOLD at the DOOR on a day" Not on the day ahead of the first, nor behind the last. */
+    /**
+     * Promise 29: "a set of PAPERS of one BEARER that HOLD at the DOOR on a day" Not on the day ahead of the first, nor
+     * behind the last.
+     */
     static void papersThatDoNotHoldDoNotHelp() {
         PaperPocket x = onePaper();
         Due.read(x, "door 0 field 0;door 1 field 0;");
@@ -401,7 +429,10 @@ public final class DoorsEdgesTest {
         leastDue(x, 1, 2, 0, 2, 3);
     }
 
-    /** Promise 29: "LEAST: the set that is ENOUGH of the least weight: of each PAPER 1, and 1 for each ask it fits" An ask that is fitted twice weighs twice. */
+    /**
+     * Promise 29: "LEAST: the set that is ENOUGH of the least weight: of each PAPER 1, and 1 for each ask it fits" An
+     * ask that is fitted twice weighs twice.
+     */
     static void anAskThatIsFittedTwiceWeighsTwice() {
         PaperPocket x = new PaperPocket();
         Due.tell(x, 0, 0, 0, 0, 9, 5, 0, 0, 0);
@@ -415,7 +446,10 @@ public final class DoorsEdgesTest {
         leastDue(x, 0, 1, 0, 3, 12);
     }
 
-    /** Promise 29: "LEAST: the set that is ENOUGH of the least weight: of each PAPER 1, and 1 for each ask it fits" Four PAPERS of an ask each weigh 8. */
+    /**
+     * Promise 29: "LEAST: the set that is ENOUGH of the least weight: of each PAPER 1, and 1 for each ask it fits" Four
+     * PAPERS of an ask each weigh 8.
+     */
     static void morePapersWeighMore() {
         PaperPocket x = new PaperPocket();
         for (int office = 0; office < 4; office++) {
@@ -437,7 +471,10 @@ public final class DoorsEdgesTest {
         leastDue(x, 0, 1, 0, 3, 5);
     }
 
-    /** Promise 29: "of several the least number" Of one weight, three PAPERS of a less number go ahead of two, and two ahead of three. */
+    /**
+     * Promise 29: "of several the least number" Of one weight, three PAPERS of a less number go ahead of two, and two
+     * ahead of three.
+     */
     static void theLeastNumberCountsNotTheFewestPapers() {
         int[][] fits = {{1, 0, 0, 0}, {0, 1, 0, 0}, {0, 0, 1, 1}, {1, 1, 1, 0}};
         int[][] orders = {{0, 1, 2, 3}, {3, 2, 0, 1}};
@@ -481,7 +518,10 @@ public final class DoorsEdgesTest {
         leastDue(x, 0, 0, 10, 1, 3);
     }
 
-    /** Promise 29: "LEAST of a BEARER at a DOOR on a day: the set of PAPERS (what = 0; bits), its weight (1); NONE." All twelve PAPERS and eight asks. */
+    /**
+     * Promise 29: "LEAST of a BEARER at a DOOR on a day: the set of PAPERS (what = 0; bits), its weight (1); NONE." All
+     * twelve PAPERS and eight asks.
+     */
     static void theLastPaperAndEightAsks() {
         PaperPocket x = new PaperPocket();
         for (int p = 0; p < 12; p++) {
@@ -589,7 +629,10 @@ public final class DoorsEdgesTest {
 
     // ---- Promise 31
 
-    /** Promise 31: "COULD: the BEARERS who have a PAPER of the same OFFICE with the same values in FIELDS of the set." Of the empty set all of that OFFICE. */
+    /**
+     * Promise 31: "COULD: the BEARERS who have a PAPER of the same OFFICE with the same values in FIELDS of the set."
+     * Of the empty set all of that OFFICE.
+     */
     static void theEmptySetCouldBeOfAllOfThatOffice() {
         PaperPocket x = new PaperPocket();
         Due.tell(x, 0, 0, 0, 0, 9, 1, 2, 3, 4);
@@ -601,7 +644,10 @@ public final class DoorsEdgesTest {
         Due.due(31, "together(2)", x.together(2), 8);
     }
 
-    /** Promise 31: "COULD: the BEARERS who have a PAPER of the same OFFICE with the same values in FIELDS of the set." Each FIELD of the set counts, and no other. */
+    /**
+     * Promise 31: "COULD: the BEARERS who have a PAPER of the same OFFICE with the same values in FIELDS of the set."
+     * Each FIELD of the set counts, and no other.
+     */
     static void eachFieldOfTheSetCounts() {
         for (int field = 0; field <= 3; field++) {
             PaperPocket x = new PaperPocket();
@@ -629,7 +675,10 @@ public final class DoorsEdgesTest {
         Due.due(31, "PAPERS taken back", x.together(1), 1 | 16);
     }
 
-    /** Promise 31: "TOGETHER: of some SEEN ones (a set of their numbers, from 0 on, bits) the BEARERS who COULD have made all." By several PAPERS of one, and there may be none. */
+    /**
+     * Promise 31: "TOGETHER: of some SEEN ones (a set of their numbers, from 0 on, bits) the BEARERS who COULD have
+     * made all." By several PAPERS of one, and there may be none.
+     */
     static void togetherOfSomeAndOfNone() {
         PaperPocket x = new PaperPocket();
         Due.tell(x, 0, 2, 0, 0, 9, 1, 0, 0, 0);
@@ -698,13 +747,19 @@ public final class DoorsEdgesTest {
         }
     }
 
-    /** Promise 32: "A QUEUE: n works (1 to 7) with when they come and how long they take" One waits for none, whenever it comes. */
+    /**
+     * Promise 32: "A QUEUE: n works (1 to 7) with when they come and how long they take" One waits for none, whenever
+     * it comes.
+     */
     static void aQueueOfOne() {
         queueDue(new int[] {0, 1}, 0, 0);
         queueDue(new int[] {999, 99}, 0, 0);
     }
 
-    /** Promise 32: "A QUEUE: n works (1 to 7) with when they come and how long they take" Seven of all sorts, the shortest first. */
+    /**
+     * Promise 32: "A QUEUE: n works (1 to 7) with when they come and how long they take" Seven of all sorts, the
+     * shortest first.
+     */
     static void aQueueOfSeven() {
         queueDue(new int[] {0, 99, 0, 6, 0, 5, 0, 4, 0, 3, 0, 2, 0, 1}, 6 + 2 * 5 + 3 * 4 + 4 * 3 + 5 * 2 + 6, 6, 5, 4, 3, 2, 1, 0);
     }
@@ -717,10 +772,22 @@ public final class DoorsEdgesTest {
         queueDue(new int[] {10, 3, 12, 5}, 1, 0, 1);
     }
 
-    /** Promise 32: "of all orders the least sum of how long each waits from its coming on" One that was there may wait for one that comes. */
+    /**
+     * Promise 32: "of all orders the least sum of how long each waits from its coming on" One that was there may wait
+     * for one that comes.
+     */
     static void aLongOneMayWaitForAShortOneThatComes() {
         queueDue(new int[] {0, 99, 1, 1}, 2, 1, 0);
         queueDue(new int[] {0, 2, 1, 1}, 1, 0, 1);
+    }
+
+    /**
+     * Promise 32: "of all orders the least sum of how long each waits from its coming on" One less is less, and one
+     * that comes much later waits not at all.
+     */
+    static void anOrderThatIsBetterByOneIsTaken() {
+        queueDue(new int[] {0, 2, 0, 1, 999, 1}, 1, 1, 0, 2);
+        queueDue(new int[] {999, 1, 0, 2, 0, 1}, 1, 2, 1, 0);
     }
 
     /** Promise 32: "of several the first as a row." */
@@ -730,7 +797,10 @@ public final class DoorsEdgesTest {
         queueDue(new int[] {0, 2, 0, 1, 0, 1, 0, 2, 0, 1, 0, 2, 0, 1}, 1 + 2 + 3 + 4 + 6 + 8, 1, 2, 4, 6, 0, 3, 5);
     }
 
-    /** Promise 32: "A QUEUE of n works, two ITEMS each of a SHEET from i on (when 0 to 999, how long 1 to 99)" The last ones of the longest SHEET. */
+    /**
+     * Promise 32: "A QUEUE of n works, two ITEMS each of a SHEET from i on (when 0 to 999, how long 1 to 99)" The last
+     * ones of the longest SHEET.
+     */
     static void aQueueAtTheEndOfASheet() {
         PaperPocket x = new PaperPocket();
         x.sheet(0, 1, 60);

@@ -53,7 +53,10 @@ public final class OfficesEdgesTest {
         Due.due(7, "another office", x.keyOn(1, 10), 101);
     }
 
-    /** Promise 7: "others from later days on, as they are told" Told later for an earlier day, it ends where the later one begins. */
+    /**
+     * Promise 7: "others from later days on, as they are told" Told later for an earlier day, it ends where the later
+     * one begins.
+     */
     static void keysAreToldInAnyOrder() {
         PaperPocket x = new PaperPocket();
         x.key(0, 20, 220);
@@ -308,7 +311,10 @@ public final class OfficesEdgesTest {
         }
     }
 
-    /** Promise 10: "LEAF of a FIELD i of PAPER p: (31 times its value and 7 p and i) modulo M." From 0 of the first to 31049 of the last. */
+    /**
+     * Promise 10: "LEAF of a FIELD i of PAPER p: (31 times its value and 7 p and i) modulo M." From 0 of the first to
+     * 31049 of the last.
+     */
     static void theLeastAndTheGreatestLeaf() {
         PaperPocket x = new PaperPocket();
         for (int p = 0; p < 12; p++) {
@@ -335,7 +341,10 @@ public final class OfficesEdgesTest {
         Due.due(10, "one of the squares is beyond an int", beyond ? 1 : 0, 1);
     }
 
-    /** Promise 10: "LEFT: JOIN of LEAVES 0, 1; RIGHT: of 2, 3; ROOT: JOIN of LEFT, RIGHT." All FIELDS 0: 8, 18, 123, as it can be counted by hand. */
+    /**
+     * Promise 10: "LEFT: JOIN of LEAVES 0, 1; RIGHT: of 2, 3; ROOT: JOIN of LEFT, RIGHT." All FIELDS 0: 8, 18, 123, as
+     * it can be counted by hand.
+     */
     static void sumsOfTheLeastFields() {
         PaperPocket x = new PaperPocket();
         tellFields(x, 0, 0, 0, 0);
@@ -356,21 +365,34 @@ public final class OfficesEdgesTest {
                 tellFields(x, 5, 6, c, d);
                 Due.due(10, "ROOT", x.told(0, 6), 0);
                 Due.due(10, "SEAL", x.told(0, 7), 1);
+                Due.fill(x, 0, 5, 6, c, d);
+                Due.due(12, "its SHOWING is taken", x.check(0, 15, 0, 0, 4), 1);
+                x.set(0, 0, 4);
+                Due.due(12, "another is not", x.check(0, 15, 0, 0, 4), 0);
                 return;
             }
         }
         Due.due(10, "FIELDS with such a ROOT are found", 0, 1);
     }
 
-    /** Promise 10: "SEAL: (ROOT times the KEY of its OFFICE on its first day, and 1) modulo M." The greatest KEY makes it 1 less ROOT, and M. */
+    /**
+     * Promise 10: "SEAL: (ROOT times the KEY of its OFFICE on its first day, and 1) modulo M." The greatest KEY makes
+     * it 1 less ROOT, and M.
+     */
     static void theSealOfTheGreatestAndOfTheLeastKey() {
         PaperPocket x = new PaperPocket();
         x.key(0, 0, 65520);
         x.key(1, 0, 1);
-        tellFields(x, 999, 999, 999, 999);
-        Due.tell(x, 1, 0, 0, 0, 0, 9, 9, 9, 9);
-        Due.due(10, "SEAL by 65520", x.told(0, 7), Math.floorMod(1 - x.told(0, 6), 65521));
-        Due.due(10, "SEAL by 1", x.told(1, 7), x.told(1, 6) + 1);
+        boolean beyond = false;
+        for (int p = 0; p < 12; p += 2) {
+            tellFields(x, 999, 80 * p, 999, 999);
+            Due.tell(x, 1, 0, 0, 0, 0, 9, 9, 80 * p, 9);
+            int root = x.told(p, 6);
+            Due.due(10, "SEAL by 65520", x.told(p, 7), Math.floorMod(1 - root, 65521));
+            Due.due(10, "SEAL by 1", x.told(p + 1, 7), (x.told(p + 1, 6) + 1) % 65521);
+            beyond |= 65520L * root > MAX;
+        }
+        Due.due(10, "one of them goes beyond an int", beyond ? 1 : 0, 1);
     }
 
     /** Promise 10: "SEAL: (ROOT times the KEY of its OFFICE on its first day, and 1) modulo M." 65520 and 1 is 0 again. */
@@ -383,7 +405,10 @@ public final class OfficesEdgesTest {
         Due.due(10, "SEAL", x.told(0, 7), 0);
     }
 
-    /** Promise 10: "SEAL: (ROOT times the KEY of its OFFICE on its first day, and 1) modulo M." Not the KEY of the day ahead, nor that of a later day. */
+    /**
+     * Promise 10: "SEAL: (ROOT times the KEY of its OFFICE on its first day, and 1) modulo M." Not the KEY of the day
+     * ahead, nor that of a later day.
+     */
     static void theSealIsByTheKeyOfTheFirstDay() {
         PaperPocket x = new PaperPocket();
         x.key(2, 20, 3);
@@ -503,7 +528,10 @@ public final class OfficesEdgesTest {
 
     // ---- Promise 10
 
-    /** Promise 10: "Of a PAPER: 0 to 3 FIELDS, 4 LEFT, 5 RIGHT, 6 ROOT, 7 SEAL, 8 OFFICE, 9 BEARER, 10 first day, 11 last day, 12 to 15 ENDS of CHAINS." */
+    /**
+     * Promise 10: "Of a PAPER: 0 to 3 FIELDS, 4 LEFT, 5 RIGHT, 6 ROOT, 7 SEAL, 8 OFFICE, 9 BEARER, 10 first day, 11
+     * last day, 12 to 15 ENDS of CHAINS."
+     */
     static void whatIsToldOfAPaper() {
         PaperPocket x = new PaperPocket();
         Due.tell(x, 2, 4, 1, 30, 60, 0, 1, 2, 3);
@@ -552,7 +580,10 @@ public final class OfficesEdgesTest {
     private static final int LEFT = (310 * 310 + 3 * 621 + 5) % 65521;
     private static final int RIGHT = (932 * 932 + 3 * 1243 + 5) % 65521;
 
-    /** Promise 11: "A SHOWING of some FIELDS (a set, bits) of a PAPER: for each half (FIELDS 0, 1; 2, 3):" Of no FIELD it is the two halves. */
+    /**
+     * Promise 11: "A SHOWING of some FIELDS (a set, bits) of a PAPER: for each half (FIELDS 0, 1; 2, 3):" Of no FIELD
+     * it is the two halves.
+     */
     static void theEmptyShowing() {
         showingDue(0, LEFT, RIGHT);
     }
@@ -644,7 +675,20 @@ public final class OfficesEdgesTest {
         }
     }
 
-    /** Promise 12: "CHECK of n ITEMS of a SHEET from i on for a PAPER and a set, with its SEAL and KEY: 1, 0." The last ITEMS of the longest SHEET. */
+    /** Promise 12: "the ROOT made of them gives that SEAL." One of 0 is made of 0 and 43679, and is a ROOT like others. */
+    static void aRootOf0MayBeMade() {
+        PaperPocket x = new PaperPocket();
+        tellFields(x, 1, 2, 3, 4);
+        Due.fill(x, 0, 0, 43679);
+        Due.due(12, "the sum is two times M", 0 * 0 + 3 * 43679 + 5, 2 * Due.M);
+        Due.due(12, "check(0, 0, 0, 0, 2)", x.check(0, 0, 0, 0, 2), 0);
+        Due.due(39, "status()", x.status(), 0);
+    }
+
+    /**
+     * Promise 12: "CHECK of n ITEMS of a SHEET from i on for a PAPER and a set, with its SEAL and KEY: 1, 0." The last
+     * ITEMS of the longest SHEET.
+     */
     static void theLastItemsOfASheetAreChecked() {
         PaperPocket x = new PaperPocket();
         tellFields(x, 1, 2, 3, 999);
@@ -791,7 +835,10 @@ public final class OfficesEdgesTest {
 
     // ---- Promise 13
 
-    /** Promise 13: "LIES: for how many values 0 to 999 of a FIELD a SHOWING of it with all else as it is would be taken." The true value 0, or 999, is counted, too. */
+    /**
+     * Promise 13: "LIES: for how many values 0 to 999 of a FIELD a SHOWING of it with all else as it is would be
+     * taken." The true value 0, or 999, is counted, too.
+     */
     static void theLeastAndTheGreatestValueAreCounted() {
         for (int value : new int[] {0, 999}) {
             PaperPocket x = new PaperPocket();
@@ -813,7 +860,10 @@ public final class OfficesEdgesTest {
         return many;
     }
 
-    /** Promise 13: "LIES: for how many values 0 to 999 of a FIELD a SHOWING of it with all else as it is would be taken." Values with M less their sum give the same ROOT. */
+    /**
+     * Promise 13: "LIES: for how many values 0 to 999 of a FIELD a SHOWING of it with all else as it is would be
+     * taken." Values with M less their sum give the same ROOT.
+     */
     static void aLieMayBeTaken() {
         for (int other = 0; other < 1000; other++) {
             int[] valueOf = new int[Due.M];
@@ -856,7 +906,10 @@ public final class OfficesEdgesTest {
 
     // ---- Promises 14, 15
 
-    /** Promise 10: "A CHAIN of FIELD i of PAPER p: STEP of x: (x x and 3) modulo M; its BEGINNING (101 p and 17 i and 1); its END: the value and 1 STEPS from the BEGINNING." A value 0 is one STEP, 999 are 1000. */
+    /**
+     * Promise 10: "A CHAIN of FIELD i of PAPER p: STEP of x: (x x and 3) modulo M; its BEGINNING (101 p and 17 i and
+     * 1); its END: the value and 1 STEPS from the BEGINNING." A value 0 is one STEP, 999 are 1000.
+     */
     static void theShortestAndTheLongestChain() {
         PaperPocket x = new PaperPocket();
         for (int p = 0; p < 12; p++) {
@@ -922,7 +975,10 @@ public final class OfficesEdgesTest {
         }
     }
 
-    /** Promise 14: "OVER: the number for a bound b. BAD: PAPER, FIELD, b (0 to 999); STATE: the value is less." BAD comes ahead of STATE. */
+    /**
+     * Promise 14: "OVER: the number for a bound b. BAD: PAPER, FIELD, b (0 to 999); STATE: the value is less." BAD
+     * comes ahead of STATE.
+     */
     static void overANoSuchBoundIsBad() {
         PaperPocket x = new PaperPocket();
         tellFields(x, 0, 999, 0, 0);
@@ -980,7 +1036,10 @@ public final class OfficesEdgesTest {
         }
     }
 
-    /** Promise 15: "Whether a number (0 to 65520) is taken for a bound b: 1, 0. BAD." Bounds are 0 to 999, and one above the value is none that is refused. */
+    /**
+     * Promise 15: "Whether a number (0 to 65520) is taken for a bound b: 1, 0. BAD." Bounds are 0 to 999, and one above
+     * the value is none that is refused.
+     */
     static void isOverOfNoSuchBoundIsBad() {
         PaperPocket x = new PaperPocket();
         tellFields(x, 0, 0, 0, 0);

@@ -49,13 +49,17 @@ public final class OracleTest {
 
     private static int[] leastByAllSets(PaperPocket x, int[][] papers, int[][] asks, int bearer) {
         int[] best = {Due.NONE, Due.NONE};
+        boolean[] usable = new boolean[papers.length];
+        for (int p = 0; p < papers.length; p++) {
+            usable[p] = papers[p][1] == bearer && x.holds(p, 0, 6) == 0;
+        }
         for (int set = 0; set < 1 << papers.length; set++) {
             boolean[] fitted = new boolean[asks.length];
             boolean good = true;
             int weight = 0;
             for (int p = 0; p < papers.length; p++) {
                 if ((set >> p & 1) == 1) {
-                    good &= papers[p][1] == bearer && x.holds(p, 0, 6) == 0;
+                    good &= usable[p];
                     weight++;
                     for (int a = 0; a < asks.length; a++) {
                         boolean one = fits(papers[p], asks[a]);

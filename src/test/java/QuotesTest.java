@@ -13,7 +13,7 @@ import java.util.regex.Pattern;
  * and what they quote is, taken together, all that 'Terms' and the promises say: no sentence is left without a test.
  */
 public final class QuotesTest {
-    private static final Pattern REMARK = Pattern.compile("(?s)/\\*\\* ([^*]*?) \\*/\\s*static void (\\w+)\\(\\)");
+    private static final Pattern REMARK = Pattern.compile("/\\*\\*((?:[^*]|\\*(?!/))*)\\*/\\s*static void (\\w+)\\(\\)");
     private static final Pattern TEST = Pattern.compile("\\n    static void (\\w+)\\(\\)");
     private static final Pattern NAMED = Pattern.compile("^Promise (\\d+): \"([^\"]+)\"");
 
@@ -70,7 +70,7 @@ public final class QuotesTest {
         String source = Files.readString(file);
         Map<String, String> remarks = new HashMap<>();
         for (Matcher m = REMARK.matcher(source); m.find();) {
-            remarks.put(m.group(2), plain(m.group(1)));
+            remarks.put(m.group(2), plain(m.group(1).replaceAll("\n *\\*", " ")));
         }
         int tests = 0;
         for (Matcher m = TEST.matcher(source); m.find();) {

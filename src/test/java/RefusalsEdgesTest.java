@@ -27,7 +27,10 @@ public final class RefusalsEdgesTest {
         Due.due(2, "SHEET -1", x.sheet(-1, 0, 9), Due.BAD);
     }
 
-    /** Promise 8: "Refusals are answers, the first of these that fits: BAD (a number is not as told; there is no such thing), STATE (as told)" */
+    /**
+     * Promise 8: "Refusals are answers, the first of these that fits: BAD (a number is not as told; there is no such
+     * thing), STATE (as told)"
+     */
     static void badComesAheadOfStateOfAClosing() {
         PaperPocket x = new PaperPocket();
         x.close(0, 0, 5);
@@ -38,7 +41,10 @@ public final class RefusalsEdgesTest {
         }
     }
 
-    /** Promise 23: "Refusals are answers, the first of these that fits: BAD (a number is not as told; there is no such thing), STATE (as told)" */
+    /**
+     * Promise 23: "Refusals are answers, the first of these that fits: BAD (a number is not as told; there is no such
+     * thing), STATE (as told)"
+     */
     static void badComesAheadOfStateOfATakingBack() {
         PaperPocket x = onePaper();
         x.revoke(0, 5);
@@ -47,7 +53,10 @@ public final class RefusalsEdgesTest {
         Due.due(23, "a day 1000", x.revoke(0, 1000), Due.BAD);
     }
 
-    /** Promise 14: "Refusals are answers, the first of these that fits: BAD (a number is not as told; there is no such thing), STATE (as told)" */
+    /**
+     * Promise 14: "Refusals are answers, the first of these that fits: BAD (a number is not as told; there is no such
+     * thing), STATE (as told)"
+     */
     static void badComesAheadOfStateOfABound() {
         PaperPocket x = onePaper();
         Due.due(14, "as told", x.over(0, 0, 2), Due.STATE);
@@ -101,7 +110,10 @@ public final class RefusalsEdgesTest {
         Due.due(39, "status()", x.status(), 2);
     }
 
-    /** Promise 12: "Refusals are answers, the first of these that fits: BAD" Ahead of FINDINGS, but for an ITEM, which is looked at behind them. */
+    /**
+     * Promise 12: "Refusals are answers, the first of these that fits: BAD" Ahead of FINDINGS, but for an ITEM, which
+     * is looked at behind them.
+     */
     static void badComesAheadOfFindings() {
         PaperPocket x = onePaper();
         Due.due(2, "a LANE 3 and SIZE", x.sheet(0, 3, -1), Due.BAD);
@@ -172,7 +184,10 @@ public final class RefusalsEdgesTest {
         Due.due(2, "its size", x.drop(0), 2);
     }
 
-    /** Promise 4: "What is refused, or found, changes nothing but status()." No ITEM is set or copied, not even those that could be. */
+    /**
+     * Promise 4: "What is refused, or found, changes nothing but status()." No ITEM is set or copied, not even those
+     * that could be.
+     */
     static void aRefusedSetOrCopyChangesNoItem() {
         PaperPocket x = new PaperPocket();
         Due.fill(x, 0, 11, 12, 13);
@@ -216,7 +231,10 @@ public final class RefusalsEdgesTest {
         Due.due(24, "holds(0, 0, 9)", x.holds(0, 0, 9), 4);
     }
 
-    /** Promise 9: "What is refused, or found, changes nothing but status()." The next PAPER has the number that the refused one would have had. */
+    /**
+     * Promise 9: "What is refused, or found, changes nothing but status()." The next PAPER has the number that the
+     * refused one would have had.
+     */
     static void aRefusedPaperTakesNoNumber() {
         PaperPocket x = onePaper();
         x.set(7, 8, 1000);

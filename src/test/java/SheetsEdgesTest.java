@@ -17,7 +17,10 @@ public final class SheetsEdgesTest {
         Due.due(38, "count(0)", x.count(0), 0);
     }
 
-    /** Promise 2: "SHEETS 0 .. 7 are missing (at first), or have a LANE (0 bytes, 1 shorts, 2 ints) and 0 to 60 ITEMS, 0 at first." */
+    /**
+     * Promise 2: "SHEETS 0 .. 7 are missing (at first), or have a LANE (0 bytes, 1 shorts, 2 ints) and 0 to 60 ITEMS, 0
+     * at first."
+     */
     static void sheets0To7CanBeMade() {
         PaperPocket x = new PaperPocket();
         for (int sheet = 0; sheet <= 7; sheet++) {
@@ -186,9 +189,15 @@ public final class SheetsEdgesTest {
 
     // ---- Promise 3
 
-    /** Promise 3: "ITEM i becomes v, its lowest bits, as many as the LANE has: what it is then." A byte has eight, the highest is its sign. */
+    /**
+     * Promise 3: "ITEM i becomes v, its lowest bits, as many as the LANE has: what it is then." A byte has eight, the
+     * highest is its sign.
+     */
     static void bytesKeepEightBits() {
-        int[][] due = {{0, 0}, {127, 127}, {128, -128}, {255, -1}, {256, 0}, {257, 1}, {-128, -128}, {-129, 127}, {-256, 0}, {MAX, -1}, {MIN, 0}};
+        int[][] due = {
+            {0, 0}, {127, 127}, {128, -128}, {255, -1}, {256, 0}, {257, 1},
+            {-128, -128}, {-129, 127}, {-256, 0}, {MAX, -1}, {MIN, 0},
+        };
         PaperPocket x = new PaperPocket();
         x.sheet(0, 0, 1);
         for (int[] one : due) {
@@ -198,7 +207,10 @@ public final class SheetsEdgesTest {
 
     /** Promise 3: "ITEM i becomes v, its lowest bits, as many as the LANE has: what it is then." A short has sixteen. */
     static void shortsKeepSixteenBits() {
-        int[][] due = {{255, 255}, {32767, 32767}, {32768, -32768}, {65535, -1}, {65536, 0}, {65537, 1}, {-32768, -32768}, {-32769, 32767}, {MAX, -1}, {MIN, 0}};
+        int[][] due = {
+            {255, 255}, {32767, 32767}, {32768, -32768}, {65535, -1}, {65536, 0}, {65537, 1},
+            {-32768, -32768}, {-32769, 32767}, {MAX, -1}, {MIN, 0},
+        };
         PaperPocket x = new PaperPocket();
         x.sheet(0, 1, 1);
         for (int[] one : due) {
@@ -229,7 +241,10 @@ public final class SheetsEdgesTest {
         }
     }
 
-    /** Promise 3: "ITEM i becomes v, its lowest bits, as many as the LANE has: what it is then." The wrapped number is the one that is kept. */
+    /**
+     * Promise 3: "ITEM i becomes v, its lowest bits, as many as the LANE has: what it is then." The wrapped number is
+     * the one that is kept.
+     */
     static void whatIsKeptIsWhatWasAnswered() {
         PaperPocket x = new PaperPocket();
         x.sheet(0, 0, 1);

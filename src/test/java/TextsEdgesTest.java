@@ -58,7 +58,10 @@ public final class TextsEdgesTest {
         Due.due(26, "doors()", x.doors(), 1);
     }
 
-    /** Promise 25: "The lowest n bytes of w (1 to 8), the highest of them first, come behind the tape: how many it has." Those above the lowest n do not come. */
+    /**
+     * Promise 25: "The lowest n bytes of w (1 to 8), the highest of them first, come behind the tape: how many it has."
+     * Those above the lowest n do not come.
+     */
     static void theBytesAboveDoNotCome() {
         for (int n = 1; n <= 8; n++) {
             PaperPocket x = new PaperPocket();
@@ -174,7 +177,10 @@ public final class TextsEdgesTest {
 
     // ---- Terms, part 3: texts
 
-    /** Promise 26: "text: { 'door' NUMBER { 'from' NUMBER | 'field' NUMBER | 'over' NUMBER NUMBER } ';' | 'right' NUMBER { NUMBER } ';' }" None, one and as many as fit. */
+    /**
+     * Promise 26: "text: { 'door' NUMBER { 'from' NUMBER | 'field' NUMBER | 'over' NUMBER NUMBER } ';' | 'right' NUMBER
+     * { NUMBER } ';' }" None, one and as many as fit.
+     */
     static void fromNoTextToAsManyAsFit() {
         textsDue("", 0);
         textsDue("door 0;", 1);
@@ -184,7 +190,10 @@ public final class TextsEdgesTest {
         textsDue("right3;".repeat(42), 42);
     }
 
-    /** Promise 26: "text: { 'door' NUMBER { 'from' NUMBER | 'field' NUMBER | 'over' NUMBER NUMBER } ';' | 'right' NUMBER { NUMBER } ';' }" What cannot stand at the front of a text. */
+    /**
+     * Promise 26: "text: { 'door' NUMBER { 'from' NUMBER | 'field' NUMBER | 'over' NUMBER NUMBER } ';' | 'right' NUMBER
+     * { NUMBER } ';' }" What cannot stand at the front of a text.
+     */
     static void aTextBeginsWithDoorOrRight() {
         for (String word : new String[] {";", "0", "from", "field", "over", "doors", "doo", "rights", "righ", "light", "x"}) {
             faultDue(word, 0, 1);
@@ -201,7 +210,10 @@ public final class TextsEdgesTest {
         faultDue("door from 0;", 5, 1);
     }
 
-    /** Promise 26: "{ 'from' NUMBER | 'field' NUMBER | 'over' NUMBER NUMBER } ';'" Between the DOOR and ';' asks stand, and nothing else. */
+    /**
+     * Promise 26: "{ 'from' NUMBER | 'field' NUMBER | 'over' NUMBER NUMBER } ';'" Between the DOOR and ';' asks stand,
+     * and nothing else.
+     */
     static void behindADoorAsksStand() {
         faultDue("door 0", 6, 1);
         faultDue("door 0 0;", 7, 1);
@@ -240,7 +252,10 @@ public final class TextsEdgesTest {
         textsDue("right 0" + " 3".repeat(146) + ";", 1);
     }
 
-    /** Promise 28: "what a DOOR asks from now on (8 at most; all at once, in place of what it asked)" Eight are, and a text without any takes them all away. */
+    /**
+     * Promise 28: "what a DOOR asks from now on (8 at most; all at once, in place of what it asked)" Eight are, and a
+     * text without any takes them all away.
+     */
     static void whatADoorAsksIsReplaced() {
         PaperPocket x = new PaperPocket();
         Due.read(x, "door 1 " + "field 3 ".repeat(8) + ";");
@@ -253,7 +268,10 @@ public final class TextsEdgesTest {
         Due.due(28, "'right' changes no ask", x.door(1, 0), 0);
     }
 
-    /** Promise 29: "in place of what it asked): a PAPER of an OFFICE; a FIELD (0 to 3) be shown; that a FIELD is so much or more." What was asked before is no longer asked. */
+    /**
+     * Promise 29: "in place of what it asked): a PAPER of an OFFICE; a FIELD (0 to 3) be shown; that a FIELD is so much
+     * or more." What was asked before is no longer asked.
+     */
     static void whatWasAskedBeforeIsAskedNoLonger() {
         PaperPocket x = new PaperPocket();
         Due.tell(x, 0, 0, 0, 0, 9, 5, 5, 5, 5);
@@ -411,7 +429,10 @@ public final class TextsEdgesTest {
 
     // ---- Promises 26, 27
 
-    /** Promise 26: "The tape, empty then, is read and done: how many texts ('door', 'right') there were." An empty tape has none, and what was read is not read again. */
+    /**
+     * Promise 26: "The tape, empty then, is read and done: how many texts ('door', 'right') there were." An empty tape
+     * has none, and what was read is not read again.
+     */
     static void theTapeIsEmptyBehindItsReading() {
         PaperPocket x = new PaperPocket();
         Due.due(26, "nothing was fed", x.doors(), 0);
@@ -421,7 +442,10 @@ public final class TextsEdgesTest {
         Due.due(28, "the ask stays", x.door(0, 0), 1);
     }
 
-    /** Promise 26: "-1000100 less the place of a FAULT: nothing is done." The tape is empty then, too: no 'door 0;' comes of it and a ';' behind. */
+    /**
+     * Promise 26: "-1000100 less the place of a FAULT: nothing is done." The tape is empty then, too: no 'door 0;'
+     * comes of it and a ';' behind.
+     */
     static void theTapeIsEmptyBehindAFault() {
         PaperPocket x = new PaperPocket();
         Due.due(26, "doors()", Due.read(x, "door 0"), -1000106);

@@ -132,7 +132,10 @@ public final class WhoEdgesTest {
 
     // ---- Promise 18
 
-    /** Promise 18: "An ANSWER to t (a number 0 to 46), a challenge c (0 to 22), s (0 to 22) is taken, if 4 to the power s is t times the SIGN to the power c, modulo 47." */
+    /**
+     * Promise 18: "An ANSWER to t (a number 0 to 46), a challenge c (0 to 22), s (0 to 22) is taken, if 4 to the power
+     * s is t times the SIGN to the power c, modulo 47."
+     */
     static void whatABearerMakesIsTaken() {
         PaperPocket x = new PaperPocket();
         for (int r = 0; r <= 22; r += 11) {
@@ -201,7 +204,10 @@ public final class WhoEdgesTest {
 
     // ---- Promise 19
 
-    /** Promise 19: "ODDS for t and one s: how many challenges it is taken for." One of 23 for a power of 4, none for another number. */
+    /**
+     * Promise 19: "ODDS for t and one s: how many challenges it is taken for." One of 23 for a power of 4, none for
+     * another number.
+     */
     static void oddsOfAllT() {
         PaperPocket x = new PaperPocket();
         int[] many = new int[47];
@@ -254,7 +260,10 @@ public final class WhoEdgesTest {
         Due.due(20, "part(" + s + ", " + k + ", " + friend + ")", new PaperPocket().part(s, k, friend), want);
     }
 
-    /** Promise 20: "the sum S and a1 f and a2 f f and .. (k - 1 of these), modulo 257" Where one is enough, each FRIEND has the whole number. */
+    /**
+     * Promise 20: "the sum S and a1 f and a2 f f and .. (k - 1 of these), modulo 257" Where one is enough, each FRIEND
+     * has the whole number.
+     */
     static void oneFriendIsEnough() {
         for (int friend = 1; friend <= 6; friend++) {
             partDue(0, 1, friend, 0);
@@ -324,13 +333,19 @@ public final class WhoEdgesTest {
         return items;
     }
 
-    /** Promise 21: "GIVEN BACK by n FRIENDS with their parts (unlike numbers): the number at 0 of the only sum of n - 1 powers at most that has these parts." One FRIEND gives back its part. */
+    /**
+     * Promise 21: "GIVEN BACK by n FRIENDS with their parts (unlike numbers): the number at 0 of the only sum of n - 1
+     * powers at most that has these parts." One FRIEND gives back its part.
+     */
     static void oneFriendGivesBackItsPart() {
         friendsDue(0, 0, 1, 0);
         friendsDue(0, 256, 6, 256);
     }
 
-    /** Promise 21: "the number at 0 of the only sum of n - 1 powers at most that has these parts." Of FRIENDS 1, 2 it is twice the first part less the second, modulo 257. */
+    /**
+     * Promise 21: "the number at 0 of the only sum of n - 1 powers at most that has these parts." Of FRIENDS 1, 2 it is
+     * twice the first part less the second, modulo 257.
+     */
     static void whatIsGivenBackWrapsAround257() {
         friendsDue(0, 1, 1, 0, 2, 256);
         friendsDue(0, 255, 1, 256, 2, 0);
@@ -338,7 +353,10 @@ public final class WhoEdgesTest {
         friendsDue(0, 5, 1, 5, 2, 5);
     }
 
-    /** Promise 21: "n FRIENDS (1 to 6), two ITEMS each of a SHEET from i on (FRIEND, part 0 to 256): GIVEN BACK (k = 0), POSSIBLE when k (1 to 4) are needed." As many as are needed, or more, give it back. */
+    /**
+     * Promise 21: "n FRIENDS (1 to 6), two ITEMS each of a SHEET from i on (FRIEND, part 0 to 256): GIVEN BACK (k = 0),
+     * POSSIBLE when k (1 to 4) are needed." As many as are needed, or more, give it back.
+     */
     static void enoughFriendsGiveBackTheNumber() {
         for (int s : new int[] {0, 99, 256}) {
             for (int k = 1; k <= 4; k++) {
@@ -350,7 +368,10 @@ public final class WhoEdgesTest {
         }
     }
 
-    /** Promise 21: "POSSIBLE, when k are needed: for how many numbers S some sum S and a1 f and .. of k - 1 powers at most, whatever its aj, has all these parts: 257 of fewer than k parts" */
+    /**
+     * Promise 21: "POSSIBLE, when k are needed: for how many numbers S some sum S and a1 f and .. of k - 1 powers at
+     * most, whatever its aj, has all these parts: 257 of fewer than k parts"
+     */
     static void fewerThanKTellNothing() {
         for (int k = 2; k <= 4; k++) {
             for (int n = 1; n < k; n++) {

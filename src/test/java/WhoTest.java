@@ -39,9 +39,9 @@ public final class WhoTest {
     }
 
     private static void answers() {
-        PaperPocket x = new PaperPocket();
-        x.secret(4, 22);
         for (int r = 0; r < 23; r += 2) {
+            PaperPocket x = new PaperPocket();
+            x.secret(4, 22);
             for (int c = 0; c < 23; c += 2) {
                 int t = x.answer(4, r, c, 0);
                 int s = x.answer(4, r, c, 1);
@@ -51,6 +51,7 @@ public final class WhoTest {
                 Due.due(18, "taken of another s", x.taken(4, t, c, (s + 1) % 23), 0);
             }
         }
+        PaperPocket x = new PaperPocket();
         Due.due(18, "taken(0, 0, 0, 0)", x.taken(0, 0, 0, 0), 0);
         Due.due(18, "taken(0, 46, 22, 22)", x.taken(0, 46, 22, 22), 0);
         int[][] wrong = {{-1, 0, 0, 0}, {6, 0, 0, 0}, {0, -1, 0, 0}, {0, 23, 0, 0}, {0, 0, -1, 0}, {0, 0, 23, 0}, {0, 0, 0, -1}, {0, 0, 0, 2}};
@@ -108,8 +109,8 @@ public final class WhoTest {
     /** n friends, n at least k, of any order, have the number back; unlike sums of one power are tried out whole. */
     private static void givenBack() {
         Random random = new Random(21);
-        PaperPocket x = new PaperPocket();
         for (int round = 0; round < 60; round++) {
+            PaperPocket x = new PaperPocket();
             int s = random.nextInt(257);
             int k = 1 + random.nextInt(4);
             int n = k + random.nextInt(7 - k);
@@ -122,8 +123,8 @@ public final class WhoTest {
             Due.fill(x, 0, items);
             Due.due(21, "given back", x.friends(0, 0, n, 0), s);
             Due.due(21, "possible", x.friends(0, 0, n, k), 1);
+            Due.due(39, "status()", x.status(), 0);
         }
-        Due.due(39, "status()", x.status(), 0);
     }
 
     private static int[] someFriends(Random random) {

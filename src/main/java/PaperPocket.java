@@ -238,7 +238,7 @@ public final class PaperPocket {
         if (!isBearer(bearer) || !within(r, 0, ORDER - 1) || !within(c, 0, ORDER - 1) || !within(what, 0, 1)) {
             return BAD;
         }
-        return what == 0 ? power(BASE, r, GROUP) : (r + c * secrets[bearer]) % ORDER;
+        return what == 0 ? power(BASE, r) : (r + c * secrets[bearer]) % ORDER;
     }
 
     public int taken(int bearer, int t, int c, int s) {
@@ -500,10 +500,10 @@ public final class PaperPocket {
         return (int) x;
     }
 
-    private static int power(int base, int exponent, int modulus) {
+    private static int power(int base, int exponent) {
         int result = 1;
         for (int i = 0; i < exponent; i++) {
-            result = result * base % modulus;
+            result = result * base % GROUP;
         }
         return result;
     }
@@ -518,11 +518,11 @@ public final class PaperPocket {
     }
 
     private int signOf(int bearer) {
-        return power(BASE, secrets[bearer], GROUP);
+        return power(BASE, secrets[bearer]);
     }
 
     private boolean isTaken(int bearer, int t, int c, int s) {
-        return power(BASE, s, GROUP) == t * power(signOf(bearer), c, GROUP) % GROUP;
+        return power(BASE, s) == t * power(signOf(bearer), c) % GROUP;
     }
 
     // ---- papers at doors
@@ -887,7 +887,11 @@ public final class PaperPocket {
 
         /** PRIME is a prime, so a number to the power PRIME - 2 undoes the number. */
         private static int inverse(int number) {
-            return power(number, PRIME - 2, PRIME);
+            int result = 1;
+            for (int i = 0; i < PRIME - 2; i++) {
+                result = result * number % PRIME;
+            }
+            return result;
         }
 
         int possible(int n, int needed) {

@@ -56,12 +56,14 @@ public final class LanguageTest {
             names.add(one.split(" ")[0]);
         }
         Class<?>[] inside = PaperPocket.class.getDeclaredClasses();
-        Due.due(1, "at most twelve classes", inside.length <= 12 ? 1 : 0, 1);
+        Due.due(1, "at most twelve classes", inside.length + 1 <= 12 ? 1 : 0, 1);
         for (Field field : PaperPocket.class.getDeclaredFields()) {
             boolean constant = Set.of("NONE", "BAD", "STATE", "FULL").contains(field.getName());
             Due.due(1, "field " + field.getName(), Modifier.isPrivate(field.getModifiers()) ? 0 : 1, constant ? 1 : 0);
         }
+        fewFields(PaperPocket.class);
         for (Class<?> one : inside) {
+            fewFields(one);
             Due.due(1, one + " is static", Modifier.isStatic(one.getModifiers()) ? 1 : 0, 1);
             for (Method method : one.getDeclaredMethods()) {
                 Due.due(1, "no name of the face: " + method, names.contains(method.getName()) ? 1 : 0, 0);
@@ -72,6 +74,14 @@ public final class LanguageTest {
                 Due.due(1, "static ones are final: " + field, Modifier.isStatic(m) && !Modifier.isFinal(m) ? 1 : 0, 0);
             }
         }
+    }
+
+    private static void fewFields(Class<?> one) {
+        int many = 0;
+        for (Field field : one.getDeclaredFields()) {
+            many += Modifier.isStatic(field.getModifiers()) ? 0 : 1;
+        }
+        Due.due(1, "twenty fields at most: " + one, many <= 20 ? 1 : 0, 1);
     }
 
     private static void source() throws Exception {
@@ -85,6 +95,11 @@ public final class LanguageTest {
         Matcher imports = Pattern.compile("import ([\\w.]+);").matcher(code);
         while (imports.find()) {
             Due.due(1, "import " + imports.group(1), Set.of("java.util.Arrays").contains(imports.group(1)) ? 1 : 0, 1);
+        }
+        Matcher divisors = Pattern.compile("[/%] *(\\w[\\w.]*)").matcher(code);
+        while (divisors.find()) {
+            String divisor = divisors.group(1);
+            Due.due(1, "a divisor is a constant: " + divisor, divisor.matches("([A-Z]\\w*\\.)?[A-Z_]+|[1-9]\\d*") ? 1 : 0, 1);
         }
         int longest = 0;
         int from = 0;

@@ -6,7 +6,7 @@ import java.util.TreeMap;
 
 /** Runs of 512 random calls at most: PaperPocket answers each as Model does, which was written from the document alone. */
 public final class ModelTest {
-    private static final int RUNS = 800, CALLS = 512, SHOWN_FAULTS = 5;
+    private static final int RUNS = 1500, CALLS = 512, SHOWN_FAULTS = 5;
 
     /** Each call with what its numbers may be; behind ~ the highest one that is likely. */
     private static final String[] CALLS_WITH_RANGES = {
@@ -23,8 +23,10 @@ public final class ModelTest {
         Integer.MIN_VALUE, Integer.MIN_VALUE + 1, -65536, -1001, -2, -1, 0, 1, 60, 61, 255, 256, 257, 999, 1000, 65520, 65521, 65536,
         1 << 30, Integer.MAX_VALUE - 1, Integer.MAX_VALUE,
     };
+    /** The highest a paper's items may be. */
+    private static final int[] MOST_ITEMS = {3, 5, 4, 999, 999, 999, 999, 999, 999};
     private static final String[] SCRAPS = {
-        "door", "right", "from", "field", "over", ";", " ", "\n", "0", "3", "4", "999", "1000", "007", "x", "\t", "A", "\u00e9", "doo", "",
+        "door", "right", "from", "field", "over", ";", " ", "\n", "0", "3", "4", "999", "1000", "007", "a", "z", "\t", "A", "`", "{", "/", ":", "\u00e9", "doo", "",
     };
 
     private static final Map<String, Method> OURS = new TreeMap<>();
@@ -38,12 +40,15 @@ public final class ModelTest {
     private final Model model = new Model();
     private final StringBuilder story = new StringBuilder();
     private final int wildness;
+    /** In a narrow run days fall together, which is where HOLDS, KEYS and GONE ones turn. */
+    private final boolean narrow;
     private int calls;
     private boolean differed;
 
     private ModelTest(int seed) {
         random = new Random(seed);
         wildness = 3 + random.nextInt(60);
+        narrow = random.nextBoolean();
     }
 
     public static void main(String[] args) throws ReflectiveOperationException {
@@ -79,8 +84,9 @@ public final class ModelTest {
         for (int p = 0; p < papers; p++) {
             tellPaper();
         }
+        fillUp();
         while (calls < CALLS && !differed) {
-            switch (random.nextInt(64)) {
+            switch (random.nextInt(68)) {
                 case 0: tellPaper(); break;
                 case 1: partAndGiveBack(); break;
                 case 2: lineUp(); break;
@@ -92,6 +98,7 @@ public final class ModelTest {
                 case 9: both("feed", random.nextLong(), ranged("1:8")); break;
                 case 10: copyAndLook(); break;
                 case 11: seeTogether(); break;
+                case 12: holdAll(); break;
                 default: anyCall(); break;
             }
         }
@@ -138,14 +145,50 @@ public final class ModelTest {
         int high = Integer.parseInt(parts[1]);
         int likely = Integer.parseInt(parts[parts.length - 1]);
         if (random.nextInt(wildness) == 0) {
-            int[] edges = {low - 1, low, high, high + 1, WILD[random.nextInt(WILD.length)]};
-            return edges[random.nextInt(edges.length)];
+            return around(low, high);
+        }
+        if (narrow && high == 999) {
+            return low + random.nextInt(7);
         }
         int top = random.nextInt(5) == 0 ? high : likely;
         return low + random.nextInt(top - low + 1);
     }
 
+    /** A number at an edge of a range, or far from it. */
+    private int around(int low, int high) {
+        int[] edges = {low - 1, low, high, high + 1, WILD[random.nextInt(WILD.length)]};
+        return edges[random.nextInt(edges.length)];
+    }
+
     // ---- what takes several calls
+
+    /** Some runs begin with what is kept being full, or with all of it but the last one. */
+    private void fillUp() throws ReflectiveOperationException {
+        int what = random.nextInt(12);
+        int office = random.nextInt(4);
+        for (int i = 0; what == 0 && i < 7; i++) {
+            both("key", office, random.nextInt(7), 1 + random.nextInt(65520));
+            both("keyOn", office, random.nextInt(7));
+        }
+        for (int i = 0; what == 1 && i < 31; i++) {
+            both("seen", random.nextInt(4), random.nextInt(2), random.nextInt(16));
+        }
+        for (int i = 0; what == 2 && i < 37; i++) {
+            both("feed", 0x2020202020202020L, 8);
+        }
+        for (int i = 0; what == 2 && i < 6; i++) {
+            both("feed", (long) ';', 1 + random.nextInt(2));
+        }
+    }
+
+    private void holdAll() throws ReflectiveOperationException {
+        int door = random.nextInt(4);
+        int day = ranged("0:999~30");
+        both("book", door, ranged("0:999~50"));
+        for (int paper = 0; paper < 12; paper++) {
+            both("holds", paper, door, day);
+        }
+    }
 
     private void fill(int sheet, int lane, int at, int... items) throws ReflectiveOperationException {
         both("sheet", sheet, lane, at + items.length);
@@ -157,12 +200,13 @@ public final class ModelTest {
     /** Values are few and days near one another, so that papers are alike, hold, and fit what doors ask. */
     private void tellPaper() throws ReflectiveOperationException {
         int most = random.nextInt(6) == 0 ? 999 : 1 + random.nextInt(40);
-        int first = random.nextInt(25);
-        int[] items = {random.nextInt(4), random.nextInt(random.nextInt(3) == 0 ? 6 : 2), random.nextInt(5), first,
-            first + random.nextInt(40) - (random.nextInt(8) == 0 ? 3 : 0), random.nextInt(most + 1), random.nextInt(most + 1),
-            random.nextInt(4), random.nextInt(4)};
-        if (random.nextInt(8) == 0) {
-            items[random.nextInt(9)] = WILD[random.nextInt(WILD.length)];
+        int first = random.nextInt(narrow ? 5 : 25);
+        int last = first + random.nextInt(narrow ? 6 : 40) - (random.nextInt(8) == 0 ? 3 : 0);
+        int[] items = {random.nextInt(4), random.nextInt(random.nextInt(3) == 0 ? 6 : 2), random.nextInt(5), first, last,
+            random.nextInt(most + 1), random.nextInt(most + 1), random.nextInt(4), random.nextInt(4)};
+        if (random.nextInt(4) == 0) {
+            int changed = random.nextInt(9);
+            items[changed] = around(0, MOST_ITEMS[changed]);
         }
         int sheet = random.nextInt(8);
         int at = random.nextInt(3);
@@ -215,7 +259,7 @@ public final class ModelTest {
             items[2 * i + 1] = both("part", s, k, items[2 * i]);
         }
         if (random.nextInt(3) == 0) {
-            items[random.nextInt(2 * n)] = random.nextInt(260);
+            items[random.nextInt(2 * n)] = random.nextBoolean() ? random.nextInt(257) : around(0, 256);
         }
         fill(2, 1, 0, items);
         for (int needed = 0; needed <= 4; needed++) {
@@ -232,8 +276,10 @@ public final class ModelTest {
             items[2 * i] = random.nextInt(late);
             items[2 * i + 1] = 1 + random.nextInt(long_);
         }
-        if (random.nextInt(8) == 0) {
-            items[random.nextInt(2 * n)] = WILD[random.nextInt(WILD.length)];
+        if (random.nextInt(6) == 0) {
+            int work = random.nextInt(n);
+            boolean when = random.nextBoolean();
+            items[2 * work + (when ? 0 : 1)] = when ? around(0, 999) : around(1, 99);
         }
         fill(3, 1, 0, items);
         for (int k = -1; k < n; k++) {
@@ -255,7 +301,7 @@ public final class ModelTest {
         fill(1, 2, 1, items);
         both("check", paper, set, 1, 1, many);
         int changed = random.nextInt(many);
-        int other = random.nextInt(3) == 0 ? WILD[random.nextInt(WILD.length)] : items[changed] + random.nextInt(3) - 1;
+        int other = random.nextInt(3) == 0 ? around(0, random.nextBoolean() ? 999 : 65520) : items[changed] + random.nextInt(3) - 1;
         both("set", 1, 1 + changed, other);
         both("check", paper, set, 1, 1, many);
         both("check", (paper + 1) % 12, set, 1, 1, many);
@@ -323,20 +369,20 @@ public final class ModelTest {
     }
 
     private String doorText() {
-        StringBuilder text = new StringBuilder("door" + gap() + random.nextInt(4));
+        StringBuilder text = new StringBuilder("door" + gap() + random.nextInt(random.nextInt(20) == 0 ? 6 : 4));
         int asks = random.nextInt(6) == 0 ? 7 + random.nextInt(3) : random.nextInt(4);
         for (int i = 0; i < asks; i++) {
             String word = new String[] {"from", "field", "over"}[random.nextInt(3)];
             text.append(gap()).append(word).append(gap()).append(random.nextInt(random.nextInt(20) == 0 ? 12 : 4));
             if (word.equals("over")) {
-                text.append(' ').append(random.nextInt(random.nextInt(9) == 0 ? 1100 : 9));
+                text.append(' ').append(random.nextInt(random.nextInt(9) == 0 ? 1100 : random.nextBoolean() ? 9 : 40));
             }
         }
         return text.append(random.nextInt(30) == 0 ? "" : ";").toString();
     }
 
     private String rightText() {
-        StringBuilder text = new StringBuilder("right" + gap() + random.nextInt(4));
+        StringBuilder text = new StringBuilder("right" + gap() + random.nextInt(random.nextInt(20) == 0 ? 6 : 4));
         for (int i = random.nextInt(5); i > 0; i--) {
             text.append(' ').append(random.nextInt(random.nextInt(20) == 0 ? 5 : 4));
         }
